@@ -1136,8 +1136,10 @@ public final class PenSwings {
             if (!tape.takeSign('(')) {
                 return false;
             }
-            open[depth] = size - 1;
-            depth++;
+            if (depth < DEEPEST) {
+                open[depth] = size - 1;
+                depth++;
+            }
             return true;
         }
 
@@ -1559,7 +1561,7 @@ public final class PenSwings {
             measure(held, settings);
             for (int rest = 0; rest <= set && rest < 1 << MOST_PORTRAITS; rest++) {
                 for (int last = 0; last < MOST_PORTRAITS; last++) {
-                    if ((rest & set) == rest && !has(rest, last)) {
+                    if ((rest & set) == rest && has(set ^ rest, last)) {
                         weigh(rest, last);
                     }
                 }
@@ -1682,6 +1684,7 @@ public final class PenSwings {
     private static final class Parish {
         private static final int LAST_FACTOR = 999;
         private static final int FIGURES = 4;
+        private static final int TEN_THOUSAND = 10000;
         private static final int NEAR = 7;
 
         int best;
@@ -1704,18 +1707,17 @@ public final class PenSwings {
             }
         }
 
-        // NONE, if two have the same figures.
+        // NONE, if two have the same figures; some number that is not more than the fewest found, if it can't be more.
         private int fewestUnlike(Holdings held, int factor) {
             int least = FIGURES;
-            for (int i = 1; i < held.birthdays; i++) {
+            for (int i = 1; i < held.birthdays && least > fewest; i++) {
                 for (int j = 0; j < i; j++) {
                     int days = Math.abs(held.days[i] - held.days[j]);
-                    int unlike = days == 0 ? FIGURES : unlikeFigures(held.days[i] * factor, held.days[j] * factor);
-                    if (unlike == 0) {
+                    if (days != 0 && days * factor % TEN_THOUSAND == 0) {
                         return NONE;
                     }
-                    if (days <= NEAR) {
-                        least = Math.min(least, unlike);
+                    if (days != 0 && days <= NEAR) {
+                        least = Math.min(least, unlikeFigures(held.days[i] * factor, held.days[j] * factor));
                     }
                 }
             }
