@@ -241,7 +241,7 @@ public final class PenSwings {
 
     public void take(int portrait) throws NoSuchElementException {
         needPortrait(portrait);
-        hang(portrait, now);
+        takeInto(portrait, now);
         changes++;
     }
 
@@ -414,18 +414,18 @@ public final class PenSwings {
         return NONE;
     }
 
-    private void hang(int portrait, Frame frame) {
+    private void takeInto(int portrait, Frame frame) {
         System.arraycopy(held.portraitRows, SETTINGS * portrait, frame.settings, 0, SETTINGS);
     }
 
-    private void hangOn(int portrait, Frame frame) {
+    private void copyWith(int portrait, Frame frame) {
         frame.copy(now);
-        hang(portrait, frame);
+        takeInto(portrait, frame);
     }
 
     private int compare(int first, int second) {
-        hangOn(first, spare);
-        hangOn(second, other);
+        copyWith(first, spare);
+        copyWith(second, other);
         if (other.ticksRound() > LONGEST_ALIKE) {
             return SPENT;
         }
@@ -452,7 +452,7 @@ public final class PenSwings {
     }
 
     private void markPortrait(int portrait, int from, int to, int bit) {
-        hangOn(portrait, spare);
+        copyWith(portrait, spare);
         spare.carts = 0;
         markSeen(spare, from, to, bit);
     }
@@ -811,10 +811,6 @@ public final class PenSwings {
             return token == END;
         }
 
-        boolean isAnyWord() {
-            return token == WORD;
-        }
-
         boolean isWord(String word) {
             if (token != WORD || at - first != word.length()) {
                 return false;
@@ -1022,7 +1018,7 @@ public final class PenSwings {
             if (verb == NONE) {
                 return tape.refuse(1);
             }
-            if ((verb == REPEAT || verb == WHEN) && depth >= DEEPEST || !addStep(verb)) {
+            if (((verb == REPEAT || verb == WHEN) && depth >= DEEPEST) || !addStep(verb)) {
                 return tape.refuse(2);
             }
             tape.advance();
@@ -1149,7 +1145,7 @@ public final class PenSwings {
             int opener = open[depth];
             boolean repeats = verbs[opener] == REPEAT;
             boolean hasOther = verbs[opener] == WHEN && tape.isWord("else");
-            if (repeats && !addStep(AGAIN) || hasOther && !addStep(ELSE)) {
+            if ((repeats && !addStep(AGAIN)) || (hasOther && !addStep(ELSE))) {
                 return tape.refuse(2);
             }
             if (repeats) {
@@ -1311,9 +1307,9 @@ public final class PenSwings {
         // Bit 2 of the way turns; bit 0 changes the order of those that become 0 and 1, bit 1 of 2 and 3.
         private void pair(int way) {
             for (int p = 0; p < PENDULUMS; p++) {
-                int axis = p / 2 ^ way >> 2;
-                int swapped = way >> axis & 1;
-                partners[p] = 2 * axis + (p % 2 ^ swapped);
+                int axis = (p / 2) ^ (way >> 2);
+                int swapped = (way >> axis) & 1;
+                partners[p] = 2 * axis + ((p % 2) ^ swapped);
             }
         }
 
@@ -1357,7 +1353,7 @@ public final class PenSwings {
                     continue;
                 }
                 int q = partners[p];
-                boolean mirrored = (mirrors >> q / 2 & 1) == 1;
+                boolean mirrored = ((mirrors >> (q / 2)) & 1) == 1;
                 if (mirrored && period % 2 != 0) {
                     return false;
                 }
@@ -1597,7 +1593,7 @@ public final class PenSwings {
         }
 
         private static boolean has(int set, int portrait) {
-            return (set >> portrait & 1) == 1;
+            return ((set >> portrait) & 1) == 1;
         }
 
         private static int stateOf(int rest, int last) {
@@ -1609,7 +1605,7 @@ public final class PenSwings {
             int bestRested = bestFresh;
             for (int to = 0; to < MOST_PORTRAITS; to++) {
                 if (has(rest, to)) {
-                    int behind = stateOf(rest ^ 1 << to, to);
+                    int behind = stateOf(rest ^ (1 << to), to);
                     int step = apart[apartOf(last, to)];
                     int teaStep = apart[apartOf(ALL_OFF, to)];
                     bestRested = Math.min(bestRested, step + rested[behind]);
@@ -1650,7 +1646,7 @@ public final class PenSwings {
         }
 
         private int through(int rest, int last, int to, int without, int with) {
-            int behind = stateOf(rest ^ 1 << to, to);
+            int behind = stateOf(rest ^ (1 << to), to);
             int fresher = without + apart[apartOf(last, to)] + fresh[behind];
             return Math.min(fresher, withTea(last, to, without, with) + rested[behind]);
         }

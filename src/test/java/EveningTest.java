@@ -5,6 +5,7 @@ public final class EveningTest {
         withTea();
         ties();
         kept();
+        eight();
         wrong();
         Check.end();
     }
@@ -83,6 +84,20 @@ public final class EveningTest {
         Check.is("still kept", x.drawing(1), 0);
         Check.noSuch("drawing -2", () -> x.drawing(-2));
         Check.noSuch("drawing 2", () -> x.drawing(2));
+    }
+
+    private static void eight() {
+        int[][] rows = new int[8][];
+        for (int i = 0; i < 8; i++) {
+            rows[i] = new int[] {i == 0 ? 9 : 8 - i, 0, 0, 0};
+        }
+        PenSwings x = portraits(rows);
+        evening("one after another", x, 255, 9, 0, 7, 6, 5, 4, 3, 2, 1, 0);
+        evening("each other one", x, 0xaa, 7, 0, 7, 5, 3, 1);
+        int[][] corners = {{9, 9, 9, 9}, {9, 9, 9, 0}, {9, 9, 0, 0}, {9, 0, 0, 0}, {0, 0, 0, 0}, {0, 0, 0, 5}, {0, 0, 5, 5}, {0, 5, 5, 5}};
+        // Up by 9 each to the first one, tea, and up by 5 each.
+        PenSwings y = portraits(corners);
+        evening("two ways up", y, 255, 36 + 15, 4, 3, 2, 1, 0, 4, 5, 6, 7);
     }
 
     private static void wrong() {

@@ -55,6 +55,13 @@ public final class ParishTest {
         // 4 and 8 by 278: 1112 and 2224, unlike 0000 and one another in all.
         factor("4 apart", x, 278, 4);
         x.forget();
+        // By 125 the days 1 and 81 would both be 0125.
+        x.birthday(1);
+        x.birthday(8);
+        factor("1 and 8", x, 125, 4);
+        x.birthday(81);
+        factor("none have the same figures", x, 126, 4);
+        x.forget();
         factor("forgotten", x, 1, 4);
     }
 }

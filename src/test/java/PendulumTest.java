@@ -143,6 +143,18 @@ public final class PendulumTest {
         PenSwings y = Check.told("pendulum kick 2 90 1 0;pendulum kick 2 90 1 0;pendulum kick 2 90 0 0;pendulum kick 2 90 0 0;"
             + "cart 0 -20 20;cart 0 -20 20;cart 0 -20 20;cart 0 -20 20;");
         Check.is("cell", y.inCell(26 * 27, 0, 0), 0);
+        PenSwings z = Check.told("pendulum kick 2 90 1 0;pendulum kick 2 90 1 0;pendulum kick 2 90 1 0;pendulum kick 2 90 1 0;"
+            + "cart 0 -20 -20;cart 0 -20 -20;cart 0 -20 -20;cart 0 -20 -20;");
+        Check.is("cell", z.inCell(0, 0, 0), 0);
+        Check.is("drawn", z.drawn(0, 0), 1);
+        // Across 19, -1, 20, -20 and then -21: rows 13, 12, 14, 12, 11.
+        PenSwings w = Check.told("pendulum even 2 0 0 0;pendulum even 2 0 0 0;pendulum kick 2 19 0 0;"
+            + "cart 1 0 18;cart 2 0 -17;cart 3 0 -2;cart 5 0 -1;");
+        Check.is("row 13", w.inCell(13 * 27 + 13, 0, 9), 0);
+        Check.is("row 12", w.inCell(12 * 27 + 13, 0, 9), 1);
+        Check.is("row 14", w.inCell(14 * 27 + 13, 0, 9), 2);
+        Check.is("row 12 again", w.inCell(12 * 27 + 13, 2, 9), 3);
+        Check.is("row 11", w.inCell(11 * 27 + 13, 0, 9), 5);
     }
 
     private static void round() {
@@ -168,6 +180,9 @@ public final class PendulumTest {
         x.set(0, 2, 0);
         x.set(2, 2, 0);
         Check.is("all as it was", x.off(), 0);
+        PenSwings z = Check.told("pendulum kick 2 9 0 0;pendulum kick 4 8 0 50;pendulum kick 2 90 0 0;pendulum kick 2 60 1 50;");
+        // 8, 4 along; -60, -30, -15 across.
+        Check.is("the second ones", z.off(), 4 + 45);
         PenSwings y = Check.told("pendulum kick 40 90 0 99;pendulum kick 39 9 0 0;pendulum kick 37 9 0 0;pendulum kick 29 9 0 0;");
         Check.is("far round", y.round(), 40 * 39 * 37 * 29);
         Check.is("far off", y.off(), 90);

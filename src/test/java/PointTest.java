@@ -4,6 +4,8 @@ public final class PointTest {
         points();
         fitsByHand();
         fitsWithCarts();
+        sixPoints();
+        cartOfSixPoints();
         chords();
         cartByHand();
         cartRefused();
@@ -73,6 +75,40 @@ public final class PointTest {
         fits(x, 1, 0, new int[] {4, 1001, 1001, 0});
     }
 
+    private static void sixPoints() {
+        PenSwings x = Check.told("pendulum even 9 90 3 3;pendulum bowl 7 80 2 0;pendulum bowl 11 70 0 5;pendulum kick 5 60 1 9;"
+            + "cart 20 -7 5;cart 40 3 3;pennies 2 5 1 4;");
+        int[] ticks = {3, 17, 20, 39, 41, 88};
+        for (int i = 0; i < 6; i++) {
+            x.point(ticks[i], x.pen(ticks[i], 0), x.pen(ticks[i], 1));
+        }
+        x.set(0, 0, 9);
+        x.set(3, 0, 0);
+        fits(x, 5, 0, new int[] {1, 2514, 2514, 0});
+        x.unpoint();
+        x.set(0, 0, 2);
+        x.set(3, 0, 4);
+        x.point(88, x.pen(88, 0) + 2, x.pen(88, 1) - 1);
+        fits(x, 5, 2, new int[] {0, PenSwings.NONE, 2514, 3});
+        fits(x, 5, 3, new int[] {1, 2514, 2514, 3});
+    }
+
+    private static void cartOfSixPoints() {
+        PenSwings x = Check.told("pendulum even 9 90 3 0;pendulum bowl 7 80 2 0;pendulum bowl 11 70 0 0;pendulum kick 5 60 1 0;");
+        int[] ticks = {300, 17, 20, 39, 301, 88};
+        for (int i = 0; i < 6; i++) {
+            boolean behind = ticks[i] > 30;
+            x.point(ticks[i], x.pen(ticks[i], 0) + (behind ? 4 : 0), x.pen(ticks[i], 1) + (behind ? -5 : 0));
+        }
+        cart("six points", x, 19, 21, 4, -5);
+        x.unpoint();
+        x.point(88, x.pen(88, 0) + 4, x.pen(88, 1) + 5);
+        cart("another way across", x, 0, PenSwings.NONE, 0, 0);
+        x.unpoint();
+        x.point(19, x.pen(19, 0), x.pen(19, 1) + 1);
+        cart("off across ahead of it", x, 0, PenSwings.NONE, 0, 0);
+    }
+
     private static void chord(PenSwings x, int a, int b, int moved, int row) {
         Check.is("chord " + a + " " + b, x.chord(a, b, 0), moved);
         Check.is("chord row " + a + " " + b, x.chord(a, b, 1), row);
@@ -91,6 +127,11 @@ public final class PointTest {
         // 11 by 11 and 13 by 13 are as near: the fewest pennies of 0.
         PenSwings y = Check.told("pendulum even 8 1 0 0;pendulum even 30 1 0 0;pendulum even 10 1 0 0;pennies 3 0 3 0;");
         chord(y, 1, 1, 2, 31);
+        // 40 to 30 is 4 to 3: 9 and 0 pennies of lengths of 31 and 30; 30 to 40 the other way.
+        PenSwings z = Check.told("pendulum even 31 1 0 0;pendulum even 2 1 0 0;pendulum even 30 1 0 0;pennies 0 0 5 0;");
+        chord(z, 4, 3, 14, 90);
+        PenSwings w = Check.told("pendulum even 30 1 0 0;pendulum even 2 1 0 0;pendulum even 31 1 0 0;pennies 5 0 0 0;");
+        chord(w, 3, 4, 14, 9);
         Check.noSuch("chord what 2", () -> x.chord(0, 0, 2));
         Check.noSuch("chord what -1", () -> x.chord(1, 1, -1));
         Check.illegal("a 0", () -> x.chord(0, 1, 0));

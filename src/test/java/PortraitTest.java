@@ -15,6 +15,7 @@ public final class PortraitTest {
         silence();
         spent();
         kinds();
+        firstOfKind();
         laid();
         Check.end();
     }
@@ -236,6 +237,22 @@ public final class PortraitTest {
         Check.noSuch("kinds -2", () -> x.kinds(-2));
     }
 
+    private static void firstOfKind() {
+        PenSwings x = Check.told(FOUR_KICKS);
+        x.keep();
+        x.keep();
+        Check.is("of the first", x.kinds(1), 0);
+        Check.is("one kind", x.kinds(PenSwings.NONE), 1);
+        settings(x, 2, 1, 2, 3, 4);
+        settings(x, 1, 0, 0, 0, 1);
+        x.keep();
+        settings(x, 1, 0, 0, 0, 0);
+        x.keep();
+        Check.is("not in time", x.kinds(2), 2);
+        Check.is("in time", x.kinds(3), 0);
+        alike("small sizes count", x, 2, 3, 0);
+    }
+
     private static void laid() {
         PenSwings x = Check.told("pendulum kick 2 10 0 0;pendulum kick 3 20 0 0;cart 0 20 20;");
         x.keep();
@@ -251,6 +268,10 @@ public final class PortraitTest {
         Check.is("itself", x.laid(0, 0, 0, 999, 0), 4);
         Check.is("the object is as it was", x.pendulum(1, 2), 0);
         Check.is("its carts too", x.pen(0, 0), 30);
+        PenSwings still = Check.told("cart 2 20 0;cart 4 0 20;");
+        still.keep();
+        Check.is("drawn with carts", still.drawn(0, 9), 3);
+        Check.is("laid without them", still.laid(0, 0, 0, 9, 0), 1);
         Check.noSuch("laid 2", () -> x.laid(2, 0, 5, 4, 0));
         Check.noSuch("laid -1", () -> x.laid(0, -1, 0, 4, 0));
         Check.noSuch("laid what", () -> x.laid(0, 1, 5, 4, 3));

@@ -10,6 +10,8 @@ public final class ScoreTest {
         turning();
         blocks();
         tests();
+        justAbove();
+        cutAndFull();
         spentActs();
         spentTicks();
         faults();
@@ -113,6 +115,26 @@ public final class ScoreTest {
         Check.is("marks of spent " + text, x.marks(START), -2);
         Check.noSuch("performed 4 of spent", () -> x.performed(4));
         Check.noSuch("marks 729 of spent", () -> x.marks(729));
+    }
+
+    private static void justAbove() {
+        PenSwings x = Check.told("pendulum kick 2 1 0 0;pendulum kick 2 0 0 0;pendulum kick 2 1 0 0;");
+        performed(x, "when right (lift 2) when above (lift 4)", 4, 0, 6, cell(1, 1));
+        performed(x, "size 0 -1 size 2 -1 when right (lift 2) when above (lift 4)", 4, 0, 0, cell(0, 0));
+        performed(x, "size 2 -1 when above (lift 2)", 2, 0, 0, cell(1, 0));
+    }
+
+    private static void cutAndFull() {
+        PenSwings x = Check.told(SWINGS);
+        Check.feed(x, "draw 12");
+        Check.is("cut in a number", x.score(6), 0);
+        Check.is("one", x.performed(2), 1);
+        Check.feed(x, "turnturn");
+        Check.is("cut in a word", x.score(4), 0);
+        Check.is("turned", x.performed(3), cell(30, 50));
+        performed(x, "draw1".repeat(80), 80, 4, 80, START);
+        performed(x, "turn ".repeat(80), 80, 0, 0, START);
+        performed(x, "repeat9()".repeat(44), 44, 0, 0, START);
     }
 
     private static void spentActs() {
