@@ -777,21 +777,15 @@ public final class PenSwings {
                 }
             } else if (isDigit(here)) {
                 token = NUMBER;
-                passNumber(here);
+                value = here - '0';
+                while (at < end && isDigit(bytes[at])) {
+                    value = value < TOO_LONG ? 10 * value + bytes[at] - '0' : TOO_LONG;
+                    at++;
+                }
+                value = at - first > 3 ? TOO_LONG : value;
             } else {
                 token = SIGN;
                 value = here;
-            }
-        }
-
-        private void passNumber(int firstDigit) {
-            value = firstDigit - '0';
-            while (at < end && isDigit(bytes[at])) {
-                value = value < TOO_LONG ? 10 * value + bytes[at] - '0' : TOO_LONG;
-                at++;
-            }
-            if (at - first > 3) {
-                value = TOO_LONG;
             }
         }
 
@@ -1322,7 +1316,8 @@ public final class PenSwings {
                 if (size == 0 && becomes == 0) {
                     continue;
                 }
-                if (size == 0 || becomes == 0 || first.kinds[p] != second.kinds[q] || first.period(p) != second.period(q)) {
+                boolean bothLoud = size > 0 && becomes > 0;
+                if (!bothLoud || first.kinds[p] != second.kinds[q] || first.period(p) != second.period(q)) {
                     return false;
                 }
                 if (model == NONE) {

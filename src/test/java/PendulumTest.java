@@ -87,6 +87,9 @@ public final class PendulumTest {
         row(x, 2, 0, new int[] {50, -50, -50, 50, 25});
         x.set(2, 2, 60);
         row(x, 2, 4, new int[] {30, -30, -30, 30, 15});
+        Check.is("told anew with another loss", Check.swings(x, "pendulum kick 2 90 0 50;pendulum kick 2 90 0 1;"), 0);
+        row(x, 0, 0, new int[] {90, -90, 45, -45, 22});
+        row(x, 1, 0, new int[] {90, -90, 89, -89, 88});
         Check.noSuch("swing 4", () -> x.swing(4, -1));
         Check.noSuch("swing -1", () -> x.swing(-1, 0));
         Check.illegal("tick -1", () -> x.swing(0, -1));

@@ -176,6 +176,11 @@ public final class ScoreTest {
         bad("1000", 1, 0);
         bad("turn 5", 1, 5);
         bad("turnturn", 1, 0);
+        bad("burn", 1, 0);
+        bad("crew 1", 1, 0);
+        bad("then right ()", 1, 0);
+        bad("when night ()", 1, 5);
+        bad("when marked () elsa ()", 1, 15);
         bad("turn;", 1, 4);
         bad("(turn)", 1, 0);
         bad("turn)", 1, 4);

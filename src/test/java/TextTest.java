@@ -79,6 +79,12 @@ public final class TextTest {
         bad("1234", 1, 0);
         bad("even", 1, 0);
         bad("pendulumeven 8 5 0 0;", 1, 0);
+        bad("bendulum even 8 5 0 0;", 1, 0);
+        bad("pendulun even 8 5 0 0;", 1, 0);
+        bad("pendulum sick 8 5 0 0;", 1, 9);
+        bad("pendulum kicks 8 5 0 0;", 1, 9);
+        bad("part 1 1 1;", 1, 0);
+        bad("car 1 1 1;", 1, 0);
         bad("pendulum;", 1, 8);
         bad("pendulum 8", 1, 9);
         bad("pendulum even -8", 1, 14);
