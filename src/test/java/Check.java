@@ -9,15 +9,33 @@ final class Check {
 
     private static int wrong = 0;
     private static int asked = 0;
+    private static String about = "";
 
     private Check() {
+    }
+
+    static int wrong() {
+        return wrong;
+    }
+
+    static int asked() {
+        return asked;
+    }
+
+    /** What the next questions are about: told with each one that goes wrong. */
+    static void about(String what) {
+        about = what.isEmpty() ? "" : what + ": ";
+    }
+
+    private static void complain(String what) {
+        wrong++;
+        System.out.println(about + what);
     }
 
     static void is(String name, long got, long due) {
         asked++;
         if (got != due) {
-            wrong++;
-            System.out.println(name + " answered " + got + ", due is " + due);
+            complain(name + " answered " + got + ", due is " + due);
         }
     }
 
@@ -25,8 +43,7 @@ final class Check {
         asked++;
         String got = thrown(call);
         if (!got.equals("NoSuchElementException")) {
-            wrong++;
-            System.out.println(name + " gave " + got + ", due is NoSuchElementException");
+            complain(name + " gave " + got + ", due is NoSuchElementException");
         }
     }
 
@@ -34,8 +51,7 @@ final class Check {
         asked++;
         String got = thrown(call);
         if (!got.equals("IllegalArgumentException")) {
-            wrong++;
-            System.out.println(name + " gave " + got + ", due is IllegalArgumentException");
+            complain(name + " gave " + got + ", due is IllegalArgumentException");
         }
     }
 
@@ -80,6 +96,33 @@ final class Check {
         PenSwings x = new PenSwings();
         is("swings " + text, swings(x, text), 0);
         return x;
+    }
+
+    /** A text on a new object that must have a fault at a place. */
+    static void badSwings(String text, int fault, int place) {
+        PenSwings x = new PenSwings();
+        is("swings " + text, swings(x, text), fault);
+        is("place of " + text, x.fault(), place);
+    }
+
+    static void badScore(String text, int fault, int place) {
+        PenSwings x = new PenSwings();
+        is("score " + text, score(x, text), fault);
+        is("place of " + text, x.fault(), place);
+    }
+
+    /** A new object with a score told by a text that has no fault. */
+    static PenSwings scored(String swings, String text) {
+        PenSwings x = told(swings);
+        is("score " + text, score(x, text), 0);
+        return x;
+    }
+
+    static void row(String name, int[] got, int... due) {
+        is(name + ", how many", got.length, due.length);
+        for (int i = 0; i < got.length && i < due.length; i++) {
+            is(name + ", number " + i, got[i], due[i]);
+        }
     }
 
     static void end() {
