@@ -20,8 +20,8 @@ final class Edges {
 
     private final Map<String, String> sections = new LinkedHashMap<>();
     private final Map<String, boolean[]> read = new LinkedHashMap<>();
+    private final List<String> names = new ArrayList<>();
     private final List<String> broken = new ArrayList<>();
-    private int held = 0;
 
     Edges() {
         try {
@@ -82,7 +82,7 @@ final class Edges {
         }
         Check.is("something is asked", Check.asked() > asked ? 1 : 0, 1);
         Check.about("");
-        held++;
+        names.add(name);
         if (Check.wrong() > wrong) {
             broken.add(name);
         }
@@ -122,8 +122,9 @@ final class Edges {
         }
     }
 
-    int held() {
-        return held;
+    /** All sentences with a test of their own. */
+    List<String> names() {
+        return names;
     }
 
     List<String> broken() {

@@ -7,7 +7,7 @@ public final class EdgesTest {
         for (String one : edges.broken()) {
             System.out.println("does not hold: " + one);
         }
-        System.out.println(edges.held() + " sentences with a test of their own");
+        System.out.println(edges.names().size() + " sentences with a test of their own");
         Check.is("sentences that do not hold", edges.broken().size(), 0);
         Check.end();
     }

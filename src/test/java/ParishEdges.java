@@ -111,11 +111,11 @@ final class ParishEdges {
     }
 
     private static void laid(Edges e) {
-        e.edge(PART, "LAID TOGETHER: of two PORTRAITS, DRAWN from a TICK to another one (no CARTS): how many CELLS both have, the first alone, "
-            + "the second alone.", () -> {
+        e.edge(PART, "LAID TOGETHER: of two PORTRAITS, DRAWN from a TICK to another one (no CARTS): how many CELLS "
+            + "both have, the first alone, the second alone.", () -> {
                 // Columns 13 and 12 in turn; lines 13 alone, or 14, 14, 11, 11; then columns 12 and 13 with these lines.
-                PenSwings x = Check.told("pendulum kick 2 10 0 0;pendulum even 2 0 0 0;pendulum even 2 0 0 0;pendulum kick 4 0 0 0;"
-                    + "cart 1 20 0;cart 3 20 0;");
+                PenSwings x = Check.told("pendulum kick 2 10 0 0;pendulum even 2 0 0 0;pendulum even 2 0 0 0;"
+                    + "pendulum kick 4 0 0 0;cart 1 20 0;cart 3 20 0;");
                 x.keep();
                 x.set(3, 2, 30);
                 x.keep();
@@ -132,7 +132,8 @@ final class ParishEdges {
     }
 
     private static int[] laidAll(PenSwings x, int first, int second, int from, int to) {
-        return new int[] {x.laid(first, second, from, to, 0), x.laid(first, second, from, to, 1), x.laid(first, second, from, to, 2)};
+        return new int[] {x.laid(first, second, from, to, 0), x.laid(first, second, from, to, 1), x.laid(first, second,
+            from, to, 2)};
     }
 
     /** Portraits of these pennies, and none put on now. */
@@ -140,6 +141,9 @@ final class ParishEdges {
         PenSwings x = new PenSwings();
         for (int[] row : rows) {
             pennies(x, row);
+            // What is moved are PENNIES alone.
+            x.set(0, 1, 11 * x.count(2) + 1);
+            x.set(3, 2, 90 - 11 * x.count(2));
             x.keep();
         }
         pennies(x, 0, 0, 0, 0);
@@ -162,7 +166,8 @@ final class ParishEdges {
     }
 
     private static void evenings(Edges e) {
-        e.edge(PART, "AN EVENING of some PORTRAITS (bits), each drawn once, from PENNIES as they are: the fewest PENNIES moved;", () -> {
+        e.edge(PART, "AN EVENING of some PORTRAITS (bits), each drawn once, from PENNIES as they are: the fewest "
+            + "PENNIES moved;", () -> {
             int[][] rows = new int[8][];
             for (int i = 0; i < 8; i++) {
                 rows[i] = new int[] {i + 1, 0, 0, 0};
@@ -198,6 +203,10 @@ final class ParishEdges {
             evening("behind the last but one", z, 7, 10, 2, 0, 1, 2);
             PenSwings w = portraits(new int[] {1, 0, 0, 0}, new int[] {2, 0, 0, 0});
             evening("at will: it would not help", w, 3, 2, 0, 0, 1);
+            PenSwings v = portraits(new int[] {2, 0, 0, 0}, new int[] {0, 1, 0, 0});
+            pennies(v, 6, 0, 0, 0);
+            // 4 off, tea, 1 on; ahead of the first it would move 2 on, then 2 off and 1 on, as many.
+            evening("behind the first, not ahead of it", v, 3, 5, 1, 0, 1);
         });
         e.edge(PART, "all PENNIES are off behind it (moved by none).", () -> {
             PenSwings x = portraits(new int[] {9, 9, 9, 9}, new int[] {0, 0, 0, 0});
@@ -223,7 +232,8 @@ final class ParishEdges {
             evening("without tea", z, 3, 5, 0, 0, 1);
             PenSwings w = portraits(new int[] {5, 0, 0, 0}, none, none, new int[] {0, 5, 0, 0});
             evening("behind the first alone", w, 15, 10, 1, 0, 1, 2, 3);
-            PenSwings u = portraits(new int[] {9, 0, 0, 0}, new int[] {0, 9, 0, 0}, new int[] {0, 0, 9, 0}, new int[] {0, 0, 0, 9});
+            PenSwings u = portraits(new int[] {9, 0, 0, 0}, new int[] {0, 9, 0, 0}, new int[] {0, 0, 9, 0}, new int[] {0,
+                0, 0, 9});
             evening("the soonest tea of three", u, 15, 9 + 9 + 18 + 18, 1, 0, 1, 2, 3);
             PenSwings v = portraits(new int[] {5, 0, 0, 0}, new int[] {5, 0, 0, 0}, new int[] {0, 5, 0, 0});
             evening("a later one is dearer sooner", v, 7, 10, 2, 0, 1, 2);
@@ -255,9 +265,10 @@ final class ParishEdges {
             for (int i = 0; i < 10; i++) {
                 x.birthday(i);
             }
+            Check.row("ten are near", new int[] {x.factor(0), x.factor(1)}, 111, 3);
             Check.is("ten", x.forget(), 10);
             Check.is("none is left", x.count(4), 0);
-            Check.is("forgotten", x.factor(1), 4);
+            Check.row("forgotten", new int[] {x.factor(0), x.factor(1)}, 1, 4);
             Check.is("none again", x.forget(), 0);
             Check.is("there is room again", x.birthday(0), 1);
             Check.is("one", x.forget(), 1);

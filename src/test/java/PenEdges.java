@@ -55,7 +55,8 @@ final class PenEdges {
 
     private static void dyingAway(Edges e) {
         e.edge(PART, "S is its SIZE, once for each T ticks that are gone by at t: by 100 less LOSS, by 100, cut down.", () -> {
-            PenSwings x = Check.told("pendulum kick 4 10 0 50;pendulum kick 4 10 1 50;pendulum kick 2 90 0 1;pendulum kick 2 1 0 1;");
+            PenSwings x = Check.told("pendulum kick 4 10 0 50;pendulum kick 4 10 1 50;pendulum kick 2 90 0 1;"
+                + "pendulum kick 2 1 0 1;");
             row(x, 0, 3, -10, 5, 5, -5, -5, 2, 2, -2, -2, 1, 1, -1, -1, 0, 0, 0, 0, 0);
             row(x, 1, 2, -10, 10, 5, -5, -5, 5, 2);
             // Of 90 and less, each time 1 goes and a part is cut: 1 less each time, down to 0.
@@ -64,8 +65,8 @@ final class PenEdges {
             }
             Check.is("at the last tick", x.swing(2, 9999), 0);
             row(x, 3, 0, 1, -1, 0, 0);
-            PenSwings y = Check.told("pendulum kick 2 90 0 0;pendulum kick 2 90 0 99;pendulum kick 40 90 0 99;pendulum kick 3 90 0 50;"
-                + "pennies 0 0 9 1;");
+            PenSwings y = Check.told("pendulum kick 2 90 0 0;pendulum kick 2 90 0 99;"
+                + "pendulum kick 40 90 0 99;pendulum kick 3 90 0 50;pennies 0 0 9 1;");
             Check.is("nothing is lost", y.swing(0, 9998), 90);
             row(y, 1, 0, 90, -90, 0, 0);
             Check.is("a long period, its last tick", y.swing(2, 48), -90);
@@ -77,6 +78,15 @@ final class PenEdges {
             row(y, 3, 0, 0, 0, 0);
             y.set(3, 2, 90);
             row(y, 3, 3, -90, 45);
+            Check.is("told anew, by another loss", Check.swings(y, "pendulum kick 2 90 0 50;"
+                + "pendulum kick 2 90 0 0;pendulum kick 2 90 0 2;pendulum kick 2 90 0 1;"), 0);
+            row(y, 0, 1, -90, 45);
+            row(y, 1, 1, -90, 90);
+            row(y, 2, 1, -90, 88);
+            for (int gone = 88; gone <= 93; gone++) {
+                Check.is("the last one, gone " + gone, y.swing(3, 2 * gone), gone < 90 ? 90 - gone : 0);
+                Check.is("the last but one, gone " + gone, y.swing(2, 2 * gone), 0);
+            }
         });
     }
 
@@ -88,7 +98,8 @@ final class PenEdges {
             row(x, 2, 0, 0, 90, 0, -90, 0);
         });
         e.edge(PART, "else 2 T less 4 u by S by T, if 4 u is no more than 3 T;", () -> {
-            PenSwings x = Check.told("pendulum even 8 40 0 0;pendulum even 9 90 0 0;pendulum even 2 90 0 0;pendulum even 3 90 0 0;");
+            PenSwings x = Check.told("pendulum even 8 40 0 0;pendulum even 9 90 0 0;pendulum even 2 90 0 0;"
+                + "pendulum even 3 90 0 0;");
             row(x, 0, 3, 20, 0, -20, -40, -20);
             row(x, 1, 3, 60, 20, -20, -60, -80);
             row(x, 2, 0, 0, 0, 0);
@@ -100,10 +111,10 @@ final class PenEdges {
             row(x, 1, 6, -60, -80, -40, 0);
             row(x, 2, 0, 0, 72, 36, -36, -72, 0);
         });
-        e.edge(PART, "Bowl: with h being 2 u: 4 h by T less h by S by the square of T, if h is no more than T; else the same with h less "
-            + "T, below 0.", () -> {
-                PenSwings x = Check.told("pendulum bowl 4 80 0 0;pendulum bowl 5 90 0 0;pendulum bowl 2 90 0 0;pendulum bowl 40 90 0 0;"
-                    + "pennies 0 0 0 9;");
+        e.edge(PART, "Bowl: with h being 2 u: 4 h by T less h by S by the square of T, if h is no more than T; else "
+            + "the same with h less T, below 0.", () -> {
+                PenSwings x = Check.told("pendulum bowl 4 80 0 0;pendulum bowl 5 90 0 0;"
+                    + "pendulum bowl 2 90 0 0;pendulum bowl 40 90 0 0;pennies 0 0 0 9;");
                 row(x, 0, 0, 0, 80, 0, -80, 0);
                 // 24 by 90 and 16 by 90, by 25.
                 row(x, 1, 0, 0, 86, 57, -57, -86, 0);
@@ -112,14 +123,16 @@ final class PenEdges {
                 row(x, 3, 24, 7, -7);
             });
         e.edge(PART, "Kick: S, if 2 u is less than T; else S below 0.", () -> {
-            PenSwings x = Check.told("pendulum kick 4 9 0 0;pendulum kick 5 9 0 0;pendulum kick 2 9 0 0;pendulum kick 3 9 0 0;");
+            PenSwings x = Check.told("pendulum kick 4 9 0 0;pendulum kick 5 9 0 0;pendulum kick 2 9 0 0;"
+                + "pendulum kick 3 9 0 0;");
             row(x, 0, 0, 9, 9, -9, -9, 9);
             row(x, 1, 0, 9, 9, 9, -9, -9, 9);
             row(x, 2, 0, 9, -9, 9);
             row(x, 3, 0, 9, 9, -9, 9);
         });
         e.edge(PART, "(All cut down to 0, products first.)", () -> {
-            PenSwings x = Check.told("pendulum even 10 7 0 0;pendulum even 9 1 0 0;pendulum bowl 5 77 0 0;pendulum bowl 7 1 0 0;");
+            PenSwings x = Check.told("pendulum even 10 7 0 0;pendulum even 9 1 0 0;pendulum bowl 5 77 0 0;"
+                + "pendulum bowl 7 1 0 0;");
             row(x, 0, 0, 0, 2, 5, 5, 2, 0, -2, -5, -5, -2);
             row(x, 1, 0, 0, 0, 0, 0, 0, 0, 0, 0, 0);
             row(x, 2, 0, 0, 73, 49, -49, -73);
@@ -128,9 +141,10 @@ final class PenEdges {
     }
 
     private static void pen(Edges e) {
-        e.edge(PART, "THE PEN is along at 0 and 1 together, across at 2 and 3 together, and as CARTS up to then have moved it.", () -> {
-            PenSwings x = Check.told("pendulum kick 2 90 0 0;pendulum kick 2 89 0 0;pendulum kick 2 70 0 0;pendulum kick 2 60 1 0;"
-                + "cart 5 1 -2;cart 5 2 -4;cart 6 4 -8;");
+        e.edge(PART, "THE PEN is along at 0 and 1 together, across at 2 and 3 together, and as CARTS up to then have "
+            + "moved it.", () -> {
+            PenSwings x = Check.told("pendulum kick 2 90 0 0;pendulum kick 2 89 0 0;pendulum kick 2 70 0 0;"
+                + "pendulum kick 2 60 1 0;cart 5 1 -2;cart 5 2 -4;cart 6 4 -8;");
             int[] along = {179, -179, 179, -179, 179, -176, 186, -172};
             int[] across = {10, -10, 10, -10, 10, -16, -4, -24};
             for (int tick = 0; tick < along.length; tick++) {
@@ -145,8 +159,8 @@ final class PenEdges {
     }
 
     private static void paper(Edges e) {
-        e.edge(PART, "PAPER has 27 by 27 CELLS of 20 by 20: THE PEN is in the CELL of 27 by across and 260, by 20, and along and 260, by "
-            + "20, each cut down.", () -> {
+        e.edge(PART, "PAPER has 27 by 27 CELLS of 20 by 20: THE PEN is in the CELL of 27 by across and 260, by 20, "
+            + "and along and 260, by 20, each cut down.", () -> {
                 corners();
                 // Along, and across: -1, 0, 19, 20, then -21, -20, -1, 0.
                 int[] due = {12, 13, 13, 14};
@@ -185,12 +199,15 @@ final class PenEdges {
             Check.is("along in corner " + i, Math.abs(x.pen(0, 0)), 260);
             Check.is("across in corner " + i, Math.abs(x.pen(0, 1)), 260);
             Check.is("corner " + i, x.inCell(due[i], 0, 0), 0);
+            Check.is("drawn in corner " + i, x.drawn(0, 0), 1);
         }
     }
 
     private static void theRound(Edges e) {
-        e.edge(PART, "THE ROUND: the least number of TICKS (1 or more) that all PERIODS of PENDULUMS of a SIZE above 0 divide.", () -> {
-            PenSwings x = Check.told("pendulum even 40 0 0 0;pendulum even 39 0 0 0;pendulum even 36 0 0 0;pendulum even 36 0 0 0;");
+        e.edge(PART, "THE ROUND: the least number of TICKS (1 or more) that all PERIODS of PENDULUMS of a SIZE above "
+            + "0 divide.", () -> {
+            PenSwings x = Check.told("pendulum even 40 0 0 0;pendulum even 39 0 0 0;pendulum even 36 0 0 0;"
+                + "pendulum even 36 0 0 0;");
             Check.is("none of a size above 0", x.round(), 1);
             x.set(2, 2, 1);
             Check.is("one of size 1", x.round(), 36);
@@ -207,18 +224,20 @@ final class PenEdges {
             Check.is("49, 47, 45 and 43", x.round(), 49 * 47 * 45 * 43);
             Check.is("of LENGTH 2", Check.told("pendulum even 2 1 0 0;").round(), 2);
         });
-        e.edge(PART, "OFF: how far THE PEN at the TICK that it is (which may be any) is from that at TICK 0, along and across together, "
-            + "without CARTS.", () -> {
+        e.edge(PART, "OFF: how far THE PEN at the TICK that it is (which may be any) is from that at TICK 0, along "
+            + "and across together, without CARTS.", () -> {
                 PenSwings x = Check.told("pendulum kick 2 40 0 50;pendulum even 2 0 0 0;pendulum kick 2 30 1 50;cart 1 20 20;");
                 // 40 to 20 along, -30 to -15 across.
                 Check.is("both ways count", x.off(), 35);
                 x.set(0, 2, 0);
                 x.set(2, 2, 0);
                 Check.is("none of a size above 0, and a cart at the TICK 1", x.off(), 0);
-                PenSwings y = Check.told("pendulum kick 40 90 0 99;pendulum kick 39 9 0 0;pendulum kick 37 9 0 0;pendulum kick 29 80 0 1;");
+                PenSwings y = Check.told("pendulum kick 40 90 0 99;pendulum kick 39 9 0 0;"
+                    + "pendulum kick 37 9 0 0;pendulum kick 29 80 0 1;");
                 Check.is("a round beyond all TICKS", y.round(), 40 * 39 * 37 * 29);
                 Check.is("off by then", y.off(), 90 + 80);
-                PenSwings z = Check.told("pendulum kick 40 90 99 0;pendulum kick 39 9 99 0;pendulum kick 37 9 99 0;pendulum kick 31 9 99 0;");
+                PenSwings z = Check.told("pendulum kick 40 90 99 0;pendulum kick 39 9 99 0;"
+                    + "pendulum kick 37 9 99 0;pendulum kick 31 9 99 0;");
                 Check.is("not off at all", z.off(), 0);
             });
     }
@@ -227,8 +246,8 @@ final class PenEdges {
 
     private static void pendulum(Edges e) {
         e.edge(9, "Of a PENDULUM (0 to 3): 0 KIND, 1 LENGTH, 2 SIZE, 3 START, 4 LOSS, 5 PENNIES, 6 PERIOD.", () -> {
-            PenSwings x = Check.told("pendulum kick 3 4 5 6;pendulum even 2 0 0 0;pendulum even 2 0 0 0;pendulum bowl 40 90 99 98;"
-                + "pennies 7 0 0 9;");
+            PenSwings x = Check.told("pendulum kick 3 4 5 6;pendulum even 2 0 0 0;pendulum even 2 0 0 0;"
+                + "pendulum bowl 40 90 99 98;pennies 7 0 0 9;");
             int[] first = {2, 3, 4, 5, 6, 7, 10};
             int[] last = {1, 40, 90, 99, 98, 9, 49};
             for (int what = 0; what < 7; what++) {
@@ -298,7 +317,8 @@ final class PenEdges {
 
     private static void swing(Edges e) {
         e.edge(11, "Where a PENDULUM is at a TICK.", () -> {
-            PenSwings x = Check.told("pendulum kick 2 1 0 0;pendulum kick 2 2 0 0;pendulum kick 2 3 0 0;pendulum kick 2 4 0 0;cart 0 9 9;");
+            PenSwings x = Check.told("pendulum kick 2 1 0 0;pendulum kick 2 2 0 0;pendulum kick 2 3 0 0;"
+                + "pendulum kick 2 4 0 0;cart 0 9 9;");
             for (int p = 0; p < 4; p++) {
                 Check.is("pendulum " + p + " at 0", x.swing(p, 0), p + 1);
                 Check.is("pendulum " + p + " at 9999", x.swing(p, 9999), -p - 1);
@@ -345,10 +365,12 @@ final class PenEdges {
             Check.is("asked again", x.drawn(0, 999), 3);
             Check.is("none of those ahead", x.drawn(1000, 1999), 2);
         });
-        e.edge(13, "IllegalArgumentException: no TICKS, the second one below the first, or more than 999 behind it (as everywhere).", () -> {
+        e.edge(13, "IllegalArgumentException: no TICKS, the second one below the first, or more than 999 behind it "
+            + "(as everywhere).", () -> {
             PenSwings x = Seen.rich();
             Seen.unchanged("no such ticks", x, () -> {
-                int[][] wrong = {{-1, 0}, {-1, -1}, {9999, 10000}, {10000, 10000}, {1, 0}, {9999, 0}, {0, 1000}, {9, 1009}, {0, 9999},
+                int[][] wrong = {{-1, 0}, {-1, -1}, {9999, 10000}, {10000, 10000}, {1, 0}, {9999, 0}, {0, 1000}, {9, 1009},
+                    {0, 9999},
                     {8999, 9999}, {Integer.MIN_VALUE, Integer.MAX_VALUE}, {Integer.MAX_VALUE, Integer.MIN_VALUE}};
                 for (int[] w : wrong) {
                     Check.illegal("drawn " + w[0] + " " + w[1], () -> x.drawn(w[0], w[1]));
@@ -405,7 +427,8 @@ final class PenEdges {
         });
         e.edge(16, "OFF.", () -> {
             Check.is("nothing told", new PenSwings().off(), 0);
-            PenSwings x = Check.told("pendulum kick 2 90 0 99;pendulum kick 2 90 0 99;pendulum kick 2 90 1 99;pendulum kick 2 90 1 99;");
+            PenSwings x = Check.told("pendulum kick 2 90 0 99;pendulum kick 2 90 0 99;"
+                + "pendulum kick 2 90 1 99;pendulum kick 2 90 1 99;");
             Check.is("as far as can be", x.off(), 360);
         });
     }

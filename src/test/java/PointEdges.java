@@ -72,7 +72,8 @@ final class PointEdges {
             // At the tick 12 a kick of a period of 2, 3, 4, 5 or 6 is at its size, one of 7 below 0.
             int[] row = {5000, 500, 50, 5};
             for (int p = 0; p < 4; p++) {
-                PenSwings x = Check.told("pendulum kick 2 0 0 0;pendulum kick 2 0 0 0;pendulum kick 2 0 0 0;pendulum kick 2 0 0 0;");
+                PenSwings x = Check.told("pendulum kick 2 0 0 0;pendulum kick 2 0 0 0;pendulum kick 2 0 0 0;"
+                    + "pendulum kick 2 0 0 0;");
                 x.set(p, 2, 50);
                 x.set(p, 0, 9);
                 x.point(12, p < 2 ? -50 : 0, p < 2 ? 0 : -50);
@@ -84,8 +85,8 @@ final class PointEdges {
             Check.illegal("MOST -1", () -> new PenSwings().fits(-1, 0, 0));
             Check.illegal("MOST 6", () -> new PenSwings().fits(6, 0, 0));
         });
-        e.edge(PART, "by which (all else as it is, with CARTS) THE PEN is OFF each POINT by no more than a TOLERANCE (0 to 99) (along and "
-            + "across together).", () -> {
+        e.edge(PART, "by which (all else as it is, with CARTS) THE PEN is OFF each POINT by no more than a TOLERANCE "
+            + "(0 to 99) (along and across together).", () -> {
                 fits("just there", still(3, 0, 0), 0, 0, 1, 0, 0, 0);
                 fits("off by 1", still(3, 0, -1), 0, 0, 0, PenSwings.NONE, 0, 1);
                 fits("off by 99", still(3, 50, -49), 0, 99, 1, 0, 0, 99);
@@ -99,6 +100,12 @@ final class PointEdges {
                 fits("a cart at its tick", x, 0, 0, 1, 0, 0, 0);
                 x.point(2, 0, 0);
                 fits("and not ahead of it", x, 0, 0, 1, 0, 0, 0);
+                PenSwings y = Check.told("cart 3 20 -20;cart 4 20 -20;");
+                y.point(2, 0, 0);
+                y.point(3, 20, -20);
+                y.point(4, 40, -40);
+                y.point(2, 0, 0);
+                fits("in any order", y, 0, 0, 1, 0, 0, 0);
                 Check.illegal("TOLERANCE -1", () -> x.fits(0, -1, 0));
                 Check.illegal("TOLERANCE 100", () -> x.fits(0, 100, 0));
             });
@@ -106,7 +113,8 @@ final class PointEdges {
 
     private static void nearest(Edges e) {
         e.edge(PART, "How many; the first as a row;", () -> {
-            PenSwings x = Check.told("pendulum kick 2 10 0 0;pendulum kick 2 10 0 0;pendulum kick 2 10 0 0;pendulum kick 2 10 0 0;");
+            PenSwings x = Check.told("pendulum kick 2 10 0 0;pendulum kick 2 10 0 0;pendulum kick 2 10 0 0;"
+                + "pendulum kick 2 10 0 0;");
             // At the tick 2 each is at 10 by 0 pennies, at -10 by 1.
             x.point(2, 0, 0);
             fits("one of each two", x, 1, 0, 4, 101, 101, 0);
@@ -120,8 +128,8 @@ final class PointEdges {
             x.point(2, 1, 0);
             fits("no row", x, 1, 0, 0, PenSwings.NONE, 101, 1);
         });
-        e.edge(PART, "THE NEAREST of all rows (whether they FIT or not): that by which it is OFF least, all POINTS together, of like ones the "
-            + "first.", () -> {
+        e.edge(PART, "THE NEAREST of all rows (whether they FIT or not): that by which it is OFF least, all POINTS "
+            + "together, of like ones the first.", () -> {
                 PenSwings x = Check.told("pendulum kick 2 10 0 0;");
                 // By 0 pennies 10 at the tick 2 and -10 at 3, by 1 penny the other way: off by 0, 0, 60, or by 20, 20, 40.
                 x.point(2, 10, 0);
@@ -136,6 +144,21 @@ final class PointEdges {
                 y.unpoint();
                 y.point(2, -1, 0);
                 fits("the last ones are nearer by little", y, 1, 9, 8, 1000, 1000, 9);
+                PenSwings z = Check.told("pendulum kick 2 10 0 0;pendulum kick 2 20 0 0;"
+                    + "pendulum kick 2 30 0 0;pendulum kick 2 40 0 0;");
+                // By 1010: 10 and 10 at the tick 2, -10 and -10 at 3; at 4 all rows are at 30 and 70.
+                z.point(2, 10, 10);
+                z.point(4, 30, 70);
+                z.point(3, -12, -9);
+                fits("all POINTS together", z, 1, 2, 0, PenSwings.NONE, 1010, 3);
+                fits("all POINTS together", z, 1, 3, 1, 1010, 1010, 3);
+                z.unpoint();
+                z.unpoint();
+                z.unpoint();
+                // By 0101: 10 less 20 and 30 less 40 at the tick 2, the other way at 3.
+                z.point(3, 10, 10);
+                z.point(2, -10, -10);
+                fits("in another order", z, 1, 0, 1, 101, 101, 0);
             });
     }
 
@@ -153,8 +176,8 @@ final class PointEdges {
             }
         });
         e.edge(PART, "the fewest PENNIES moved (put on or taken off) by which PERIOD of 0 by b is PERIOD of 2 by a;", () -> {
-            PenSwings x = Check.told("pendulum even 10 0 0 0;pendulum even 10 0 0 0;pendulum even 10 0 0 0;pendulum even 10 0 0 0;"
-                + "pennies 0 9 9 9;");
+            PenSwings x = Check.told("pendulum even 10 0 0 0;pendulum even 10 0 0 0;pendulum even 10 0 0 0;"
+                + "pendulum even 10 0 0 0;pennies 0 9 9 9;");
             // As many pennies of both: each of the ten ways moves 9, put on 0 or taken off 2.
             chord("put on or taken off", x, 1, 1, 9, 0);
             chord("the same ratio", x, 10, 10, 9, 0);
@@ -211,6 +234,12 @@ final class PointEdges {
             cart("two ways along", still(5, 3, -4, 7, 4, -4), 0, PenSwings.NONE, 0, 0);
             cart("two ways across", still(5, 3, -4, 7, 3, -5), 0, PenSwings.NONE, 0, 0);
             cart("one behind it is where it is", still(5, 3, -4, 7, 0, 0), 0, PenSwings.NONE, 0, 0);
+            cart("one way behind one that is where it is", still(2, 0, 0, 7, 3, -4, 9, 3, -4), 5, 3, 3, -4);
+            cart("one way behind two", still(2, 0, 0, 1, 0, 0, 7, 0, -4, 9, 0, -4, 8, 0, -4), 5, 3, 0, -4);
+            cart("one way behind three", still(0, 0, 0, 2, 0, 0, 1, 0, 0, 7, 5, 0, 6, 5, 0), 4, 3, 5, 0);
+            cart("two ways behind one that is where it is", still(2, 0, 0, 7, 3, -4, 9, 4, -4), 0, PenSwings.NONE, 0, 0);
+            cart("two ways across behind two", still(2, 0, 0, 3, 0, 0, 7, 3, -4, 9, 3, -5), 0, PenSwings.NONE, 0, 0);
+            cart("the last one is another one", still(2, 0, 0, 7, 3, -4, 8, 3, -4, 9, 3, 4), 0, PenSwings.NONE, 0, 0);
             cart("in any order", still(9, 3, -4, 2, 0, 0, 7, 3, -4, 4, 0, 0, 8, 3, -4, 1, 0, 0), 3, 5, 3, -4);
         });
     }
@@ -223,6 +252,9 @@ final class PointEdges {
             cart("-21 along", still(5, -21, 0), 0, PenSwings.NONE, 0, 0);
             cart("21 across", still(5, 0, 21), 0, PenSwings.NONE, 0, 0);
             cart("-21 across", still(5, 0, -21), 0, PenSwings.NONE, 0, 0);
+            cart("21 along behind one", still(2, 0, 0, 5, 21, 0), 0, PenSwings.NONE, 0, 0);
+            cart("21 across behind two", still(2, 0, 0, 3, 0, 0, 5, 0, 21), 0, PenSwings.NONE, 0, 0);
+            cart("20 and -20 behind two", still(2, 0, 0, 3, 0, 0, 5, 20, -20), 2, 4, 20, -20);
         });
         e.edge(PART, "and not at all in neither (it is one).", () -> {
             cart("neither", still(5, 0, 0), 0, PenSwings.NONE, 0, 0);
@@ -252,7 +284,8 @@ final class PointEdges {
             }
         });
         e.edge(21, "NONE (STATUS 3): there are 6, it is not as told (the TICK, too).", () -> {
-            int[][] wrong = {{-1, 0, 0}, {10000, 0, 0}, {FAR[0], 0, 0}, {FAR[1], 0, 0}, {0, -261, 0}, {0, 261, 0}, {0, FAR[0], 0},
+            int[][] wrong = {{-1, 0, 0}, {10000, 0, 0}, {FAR[0], 0, 0}, {FAR[1], 0, 0}, {0, -261, 0}, {0, 261, 0}, {0,
+                FAR[0], 0},
                 {0, FAR[1], 0}, {0, 0, -261}, {0, 0, 261}, {0, 0, FAR[0]}, {0, 0, FAR[1]}};
             for (int[] w : wrong) {
                 PenSwings x = Seen.rich();
@@ -289,9 +322,10 @@ final class PointEdges {
     }
 
     private static void fits(Edges e) {
-        e.edge(23, "PENNIES THAT FIT: how many (what 0), the first (1), THE NEAREST (2), as figures of a number (0's highest; NONE: none), by "
-            + "how much THE NEAREST is OFF (3).", () -> {
-                PenSwings x = Check.told("pendulum kick 2 10 0 0;pendulum kick 2 20 0 0;pendulum kick 2 30 0 0;pendulum kick 2 40 0 0;");
+        e.edge(23, "PENNIES THAT FIT: how many (what 0), the first (1), THE NEAREST (2), as figures of a number (0's "
+            + "highest; NONE: none), by how much THE NEAREST is OFF (3).", () -> {
+                PenSwings x = Check.told("pendulum kick 2 10 0 0;pendulum kick 2 20 0 0;"
+                    + "pendulum kick 2 30 0 0;pendulum kick 2 40 0 0;");
                 // At the tick 12 all are at their sizes by 0 to 4 pennies, below 0 by 5.
                 x.point(12, -10, 10);
                 fits("5 of 1 and of 2", x, 5, 0, 5 * 5, 550, 550, 0);
@@ -357,7 +391,8 @@ final class PointEdges {
     }
 
     private static void cart(Edges e) {
-        e.edge(25, "A CART THAT WENT BY: how many TICKS FIT (what 0), the least (1; NONE: none), its way along (2), across (3; 0: none).", () -> {
+        e.edge(25, "A CART THAT WENT BY: how many TICKS FIT (what 0), the least (1; NONE: none), its way along (2), "
+            + "across (3; 0: none).", () -> {
             cart("one", still(998, 0, 0, 9999, -20, 20), 1, 999, -20, 20);
             cart("none", still(998, 0, 0, 9999, -20, 21), 0, PenSwings.NONE, 0, 0);
             PenSwings x = still(3, 5, 6);

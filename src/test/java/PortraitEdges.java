@@ -1,7 +1,8 @@
 /** Portraits, which are alike, their kinds, two laid together, images: part 3, promises 17 to 20, 29, 32, 33. */
 final class PortraitEdges {
     private static final String PART = "Part 3";
-    private static final String FOUR = "pendulum kick 6 10 0 0;pendulum kick 4 20 0 0;pendulum kick 6 30 0 0;pendulum kick 4 40 0 0;";
+    private static final String FOUR = "pendulum kick 6 10 0 0;pendulum kick 4 20 0 0;pendulum kick 6 30 0 0;"
+        + "pendulum kick 4 40 0 0;";
     private static final int[] NO_PORTRAITS = {-1, 3, 4, 8, Integer.MIN_VALUE, Integer.MAX_VALUE};
 
     private PortraitEdges() {
@@ -51,16 +52,20 @@ final class PortraitEdges {
             for (int i = 7; i >= 0; i--) {
                 x.take(i);
                 for (int p = 0; p < 4; p++) {
-                    int[] due = {new int[] {i, 9 - i, i, 9}[p], new int[] {99 - i, i, 0, 99}[p], new int[] {90 - i, i, 0, 90}[p]};
-                    Check.row("portrait " + i + " of " + p, new int[] {x.pendulum(p, 5), x.pendulum(p, 3), x.pendulum(p, 2)}, due);
+                    int[] due = {new int[] {i, 9 - i, i, 9}[p], new int[] {99 - i, i, 0, 99}[p], new int[] {90 - i, i, 0,
+                        90}[p]};
+                    Check.row("portrait " + i + " of " + p, new int[] {x.pendulum(p, 5), x.pendulum(p, 3), x.pendulum(p,
+                        2)}, due);
                 }
             }
         });
     }
 
     private static void times(Edges e) {
-        e.edge(PART, "Two are ALIKE, if there are a time (0 to THE ROUND of the second one, less 1), a turning and a ratio", () -> {
-            PenSwings x = Check.told("pendulum even 5 10 0 0;pendulum bowl 7 10 0 0;pendulum kick 9 10 0 0;pendulum even 2 0 0 0;");
+        e.edge(PART, "Two are ALIKE, if there are a time (0 to THE ROUND of the second one, less 1), a turning and a "
+            + "ratio", () -> {
+            PenSwings x = Check.told("pendulum even 5 10 0 0;pendulum bowl 7 10 0 0;pendulum kick 9 10 0 0;"
+                + "pendulum even 2 0 0 0;");
             x.keep();
             alike("the time 0", x, 0, 0, 1);
             // THE ROUND is 315: behind 314 ticks all STARTS are one less.
@@ -79,6 +84,20 @@ final class PortraitEdges {
             alike("those of SIZE 0 count for nothing", x, 0, other, 1);
             alike("one of SIZE 1 counts", x, 0, keepWith(x, 2, 10, 1, 20, 0), 0);
             alike("an untold one that is set, counts", x, 0, keepWith(x, 2, 10, 0, 20, 1), 0);
+            PenSwings y = Check.told("pendulum kick 9 10 0 0;pendulum kick 3 10 0 0;pendulum kick 9 20 0 0;"
+                + "pendulum kick 3 20 0 0;");
+            y.keep();
+            alike("all four, at the time 1", y, 0, keepWith(y, 1, 1, 1, 1, 1), 1);
+            set(y, 1, 0, 0, 0, 0);
+            alike("two of them, at the time 0", y, keepWith(y, 2, 10, 0, 20, 0), keepWith(y, 2, 20, 0, 40, 0), 1);
+            PenSwings z = Check.told("pendulum kick 6 10 0 0;pendulum kick 5 0 0 0;pendulum kick 4 10 0 0;");
+            z.keep();
+            alike("one of SIZE 0 and an odd PERIOD hinders no mirror", z, 0, keepWith(z, 1, 3, 0, 0, 0), 1);
+            PenSwings w = Check.told("pendulum kick 6 1 0 0;pendulum kick 4 1 0 0;pendulum kick 6 1 0 0;"
+                + "pendulum kick 4 1 0 0;");
+            w.keep();
+            alike("the START of one of SIZE 1 counts", w, 0, keepWith(w, 1, 1, 0, 0, 0), 0);
+            alike("and that of the last one", w, 0, keepWith(w, 1, 0, 0, 0, 1), 0);
         });
         e.edge(PART, "START and the time is as its START, MOD PERIOD;", () -> {
             PenSwings x = Check.told("pendulum even 9 10 99 0;pendulum even 3 20 99 0;");
@@ -90,12 +109,18 @@ final class PortraitEdges {
             // A time that is 5 MOD 9 is 2 MOD 3, and none is 5 MOD 9 and 0 MOD 3.
             alike("5 and 0", x, 0, keepWith(x, 1, 5, 0, 0, 0), 0);
             alike("0 and 1", x, 0, keepWith(x, 1, 0, 1, 0, 0), 0);
+            PenSwings y = Check.told("pendulum even 9 10 4 0;pendulum even 3 20 2 0;");
+            y.keep();
+            alike("4 and 2, 2 later", y, 0, keepWith(y, 1, 6, 1, 0, 0), 1);
+            alike("4 and 2, 5 later", y, 0, keepWith(y, 1, 0, 1, 0, 0), 1);
+            alike("4 and 2, not at one time", y, 0, keepWith(y, 1, 6, 2, 0, 0), 0);
         });
     }
 
     private static void pairs(Edges e) {
         e.edge(PART, "each another one:", () -> {
-            PenSwings x = Check.told("pendulum kick 6 10 0 0;pendulum kick 6 10 0 0;pendulum kick 6 10 0 0;pendulum kick 6 0 0 0;");
+            PenSwings x = Check.told("pendulum kick 6 10 0 0;pendulum kick 6 10 0 0;pendulum kick 6 10 0 0;"
+                + "pendulum kick 6 0 0 0;");
             x.keep();
             alike("two do not become one", x, 0, keepWith(x, 2, 10, 0, 10, 0), 0);
             alike("one does not become two", x, 1, keepWith(x, 2, 10, 0, 10, 10), 0);
@@ -104,7 +129,8 @@ final class PortraitEdges {
             alike("two of one side are left", x, 1, keepWith(x, 2, 10, 10, 0, 0), 0);
         });
         e.edge(PART, "of one KIND and PERIOD;", () -> {
-            PenSwings x = Check.told("pendulum even 8 10 0 0;pendulum even 6 0 0 0;pendulum kick 8 0 0 0;pendulum bowl 8 0 0 0;");
+            PenSwings x = Check.told("pendulum even 8 10 0 0;pendulum even 6 0 0 0;pendulum kick 8 0 0 0;"
+                + "pendulum bowl 8 0 0 0;");
             x.keep();
             alike("another period", x, 0, keepWith(x, 2, 0, 10, 0, 0), 0);
             x.set(1, 0, 2);
@@ -130,21 +156,26 @@ final class PortraitEdges {
     }
 
     private static void turning(Edges e) {
-        e.edge(PART, "0 and 1 become 0 and 1, 2 and 3 become 2 and 3 in any order, or, turned, 2 and 3 become 0 and 1 and the other way;", () -> {
-            PenSwings x = Check.told("pendulum even 6 10 0 0;pendulum even 6 20 0 0;pendulum even 6 30 0 0;pendulum even 6 40 0 0;");
+        e.edge(PART, "0 and 1 become 0 and 1, 2 and 3 become 2 and 3 in any order, or, turned, 2 and 3 become 0 and 1 "
+            + "and the other way;", () -> {
+            PenSwings x = Check.told("pendulum even 6 10 0 0;pendulum even 6 20 0 0;pendulum even 6 30 0 0;"
+                + "pendulum even 6 40 0 0;");
             x.keep();
             int[][] right = {{20, 10, 30, 40}, {10, 20, 40, 30}, {20, 10, 40, 30}, {30, 40, 10, 20}, {40, 30, 10, 20},
                 {30, 40, 20, 10}, {40, 30, 20, 10}};
             for (int[] sizes : right) {
                 alike("in the order " + sizes[0] + sizes[1] + sizes[2] + sizes[3], x, 0, keepWith(x, 2, sizes), 1);
             }
-            PenSwings y = Check.told("pendulum even 6 10 0 0;pendulum even 6 20 0 0;pendulum even 6 30 0 0;pendulum even 6 40 0 0;");
+            PenSwings y = Check.told("pendulum even 6 10 0 0;pendulum even 6 20 0 0;pendulum even 6 30 0 0;"
+                + "pendulum even 6 40 0 0;");
             y.keep();
-            int[][] wrong = {{10, 30, 20, 40}, {10, 40, 20, 30}, {30, 20, 10, 40}, {40, 20, 30, 10}, {20, 30, 40, 10}, {30, 10, 40, 20}};
+            int[][] wrong = {{10, 30, 20, 40}, {10, 40, 20, 30}, {30, 20, 10, 40}, {40, 20, 30, 10}, {20, 30, 40, 10}, {30,
+                10, 40, 20}};
             for (int[] sizes : wrong) {
                 alike("not in the order " + sizes[0] + sizes[1] + sizes[2] + sizes[3], y, 0, keepWith(y, 2, sizes), 0);
             }
-            PenSwings z = Check.told("pendulum even 6 10 0 0;pendulum even 6 0 0 0;pendulum even 6 0 0 0;pendulum even 6 0 0 0;");
+            PenSwings z = Check.told("pendulum even 6 10 0 0;pendulum even 6 0 0 0;pendulum even 6 0 0 0;"
+                + "pendulum even 6 0 0 0;");
             z.keep();
             alike("one alone, in its other place", z, 0, keepWith(z, 2, 0, 10, 0, 0), 1);
             alike("one alone, turned", z, 0, keepWith(z, 2, 0, 0, 10, 0), 1);
@@ -196,12 +227,14 @@ final class PortraitEdges {
             alike("none in one, 3 in the other", x, 1, 3, 0);
         });
         e.edge(PART, "SPENT: THE ROUND is more than 5040.", () -> {
-            PenSwings x = Check.told("pendulum even 16 1 0 0;pendulum even 9 1 0 0;pendulum even 7 1 0 0;pendulum even 5 1 0 0;");
+            PenSwings x = Check.told("pendulum even 16 1 0 0;pendulum even 9 1 0 0;pendulum even 7 1 0 0;"
+                + "pendulum even 5 1 0 0;");
             Check.is("THE ROUND of 0", x.round(), 5040);
             x.keep();
             Check.is("just not", x.alike(0, 0), 1);
             // 27, 17 and 11: 5049 is the least round above 5040.
-            PenSwings y = Check.told("pendulum even 27 1 0 0;pendulum even 17 1 0 0;pendulum even 11 1 0 0;pendulum even 8 0 0 0;");
+            PenSwings y = Check.told("pendulum even 27 1 0 0;pendulum even 17 1 0 0;pendulum even 11 1 0 0;"
+                + "pendulum even 8 0 0 0;");
             y.keep();
             Check.is("THE ROUND", y.round(), 5049);
             Check.is("just so", y.alike(0, 0), -2);
@@ -214,9 +247,10 @@ final class PortraitEdges {
     }
 
     private static void kindsOfPortraits(Edges e) {
-        e.edge(PART, "KINDS OF PORTRAITS: each is of the KIND of the least one ahead that it is ALIKE (as the second one); else, or where that "
-            + "is SPENT, of a new one.", () -> {
-                PenSwings x = Check.told("pendulum even 27 1 0 0;pendulum even 17 1 0 0;pendulum even 11 1 0 0;pendulum even 8 0 0 0;");
+        e.edge(PART, "KINDS OF PORTRAITS: each is of the KIND of the least one ahead that it is ALIKE (as the second "
+            + "one); else, or where that is SPENT, of a new one.", () -> {
+                PenSwings x = Check.told("pendulum even 27 1 0 0;pendulum even 17 1 0 0;"
+                    + "pendulum even 11 1 0 0;pendulum even 8 0 0 0;");
                 x.keep();
                 x.keep();
                 keepWith(x, 2, 0, 1, 1, 0);
@@ -295,7 +329,8 @@ final class PortraitEdges {
 
     private static void alikeAndKinds(Edges e) {
         e.edge(19, "Whether two PORTRAITS are ALIKE: 1, 0; -2: SPENT.", () -> {
-            PenSwings x = Check.told("pendulum even 27 1 0 0;pendulum even 17 1 0 0;pendulum even 11 1 0 0;pendulum even 2 0 0 0;");
+            PenSwings x = Check.told("pendulum even 27 1 0 0;pendulum even 17 1 0 0;pendulum even 11 1 0 0;"
+                + "pendulum even 2 0 0 0;");
             x.keep();
             x.set(2, 2, 0);
             x.keep();
@@ -364,11 +399,13 @@ final class PortraitEdges {
     }
 
     private static int[] laidAll(PenSwings x, int first, int second, int from, int to) {
-        return new int[] {x.laid(first, second, from, to, 0), x.laid(first, second, from, to, 1), x.laid(first, second, from, to, 2)};
+        return new int[] {x.laid(first, second, from, to, 0), x.laid(first, second, from, to, 1), x.laid(first, second,
+            from, to, 2)};
     }
 
     private static void images(Edges e) {
-        e.edge(32, "PENNIES, STARTS, SIZES, PORTRAITS, POINTS, BIRTHDAYS are kept as an image, in place of another one.", () -> {
+        e.edge(32, "PENNIES, STARTS, SIZES, PORTRAITS, POINTS, BIRTHDAYS are kept as an image, in place of another "
+            + "one.", () -> {
             PenSwings x = Seen.rich();
             x.image();
             String first = Seen.of(x);
@@ -396,6 +433,8 @@ final class PortraitEdges {
                 int[] tape = {x.count(5), x.fault()};
                 Seen.kept("changed and restored", x, () -> {
                     changeAll(x);
+                    Check.row("others meanwhile", new int[] {x.count(2), x.count(3), x.count(4), x.factor(1) > 0 ? 1 : 0},
+                        4, 3, 4, 1);
                     Check.is("restored", x.restore() ? 1 : 0, 1);
                 });
                 Check.row("STATUS, the tape", new int[] {x.count(5), x.fault()}, tape);

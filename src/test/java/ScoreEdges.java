@@ -53,7 +53,8 @@ final class ScoreEdges {
             performed("penny 0 -1 repeat 1 ( turn )", 3, 0, 0, cell(30, 50));
             performed("penny0-1repeat1(turn)", 3, 0, 0, cell(30, 50));
             performed("\n penny\n0\n-\n1 repeat\n1(\nturn ) \n", 3, 0, 0, cell(30, 50));
-            for (String sign : new String[] {";", "[", "]", "{", "}", ",", ".", "+", "'", "T", "\t", "\r", "" + (char) 0, "" + (char) 168,
+            for (String sign : new String[] {";", "[", "]", "{", "}", ",", ".", "+", "'", "T", "\t", "\r", "" + (char) 0,
+                "" + (char) 168,
                 "" + (char) 169, "" + (char) 173}) {
                 Check.badScore("turn " + sign, 1, 5);
             }
@@ -65,10 +66,12 @@ final class ScoreEdges {
             performed(" \n ", 0, 0, 0, START);
             performed("turn turn turn turn", 4, 0, 0, START);
         });
-        e.edge(PART, "ACT: 'draw' NUMBER | 'lift' NUMBER | 'penny' NUMBER SIGNED | 'size' NUMBER SIGNED | 'turn' | 'repeat' NUMBER BLOCK | 'when' "
-            + "TEST BLOCK ['else' BLOCK].", () -> {
-                String[] cut = {"draw", "lift", "penny", "penny 0", "penny 0 -", "size", "size 0", "size 0 -", "repeat", "repeat 1", "repeat 1 (",
-                    "when", "when not", "when right", "when right (", "when loud", "when right () else", "when right () else ("};
+        e.edge(PART, "ACT: 'draw' NUMBER | 'lift' NUMBER | 'penny' NUMBER SIGNED | 'size' NUMBER SIGNED | 'turn' | "
+            + "'repeat' NUMBER BLOCK | 'when' TEST BLOCK ['else' BLOCK].", () -> {
+                String[] cut = {"draw", "lift", "penny", "penny 0", "penny 0 -", "size", "size 0", "size 0 -", "repeat",
+                    "repeat 1", "repeat 1 (",
+                    "when", "when not", "when right", "when right (", "when loud", "when right () else", "when right "
+                        + "() else ("};
                 for (String text : cut) {
                     Check.badScore(text, 1, text.length());
                     Check.badScore(text + "\n  ", 1, text.length() + 3);
@@ -234,8 +237,10 @@ final class ScoreEdges {
     }
 
     private static void fromTheStart(Edges e) {
-        e.edge(PART, "PERFORMED, from TICK 0, nothing marked, PENNIES, STARTS, SIZES as they are (behind it they are so again), with CARTS.", () -> {
-            PenSwings x = Check.scored(SWINGS + "cart 0 20 -20;cart 2 0 20;pennies 1 0 0 9;", "draw 3 penny 0 5 size 2 60 penny 3 -9 turn");
+        e.edge(PART, "PERFORMED, from TICK 0, nothing marked, PENNIES, STARTS, SIZES as they are (behind it they are "
+            + "so again), with CARTS.", () -> {
+            PenSwings x = Check.scored(SWINGS + "cart 0 20 -20;cart 2 0 20;pennies 1 0 0 9;", "draw 3 penny 0 5 size "
+                + "2 60 penny 3 -9 turn");
             x.set(0, 1, 99);
             x.set(0, 2, 10);
             // A period of 5: u is 4, 0, 1, and -10, 10, 10 along; then one of 10: u is 2, and 10; across 30, -30, 30, then -90.
@@ -247,18 +252,32 @@ final class ScoreEdges {
                 Check.is("marked", x.performed(1), 3);
                 Check.is("at the end", x.performed(2), 3);
                 Check.is("size, pennies, turned", x.performed(3), cell(-90, 30));
-                Check.row("as they were", new int[] {x.pendulum(0, 5), x.pendulum(3, 5), x.pendulum(2, 2), x.pendulum(0, 3), x.pen(0, 0)},
+                Check.row("as they were", new int[] {x.pendulum(0, 5), x.pendulum(3, 5), x.pendulum(2, 2), x.pendulum(0,
+                    3), x.pen(0, 0)},
                     1, 9, 30, 99, 10);
             }
             PenSwings y = Check.scored("", "draw 1");
             Check.is("marked once", y.marks(cell(0, 0)), 1);
             y.set(0, 0, 1);
             Check.is("nothing is marked at first", y.marks(cell(0, 0)), 1);
+            PenSwings z = Check.scored(SWINGS, "draw 1");
+            z.keep();
+            z.image();
+            Check.is("as it is", z.marks(START), 1);
+            z.set(0, 2, 90);
+            Check.row("set", new int[] {z.marks(START), z.marks(cell(90, 30))}, 0, 1);
+            z.take(0);
+            Check.row("taken", new int[] {z.marks(START), z.marks(cell(90, 30))}, 1, 0);
+            z.set(0, 2, 90);
+            Check.is("set again", z.marks(START), 0);
+            z.restore();
+            Check.is("restored", z.marks(START), 1);
         });
     }
 
     private static void ticksAndMarks(Edges e) {
-        e.edge(PART, "Draw: so many times, the CELL in which THE PEN is at the TICK is marked, and the TICK is one more.", () -> {
+        e.edge(PART, "Draw: so many times, the CELL in which THE PEN is at the TICK is marked, and the TICK is one "
+            + "more.", () -> {
             PenSwings x = performed("draw 1", 1, 1, 1, cell(50, -30));
             Check.is("the first tick's", x.marks(START), 1);
             Check.is("not the next one's", x.marks(cell(50, -30)), 0);
@@ -359,7 +378,8 @@ final class ScoreEdges {
             Check.is("beside 0", Check.scored(even, "lift 5 when loud 0 (lift 1)").performed(2), 6);
             Check.is("died away", Check.scored("pendulum kick 2 90 0 99;", "lift 2 when loud 0 (lift 1)").performed(2), 2);
             Check.is("not yet", Check.scored("pendulum kick 2 90 0 99;", "lift 1 when loud 0 (lift 1)").performed(2), 2);
-            Check.is("turned: the same one", Check.scored(low, "turn when loud 0 (lift 1) when loud 1 (lift 2)").performed(2), 1);
+            Check.is("turned: the same one", Check.scored(low,
+                "turn when loud 0 (lift 1) when loud 1 (lift 2)").performed(2), 1);
         });
     }
 
@@ -393,8 +413,8 @@ final class ScoreEdges {
     }
 
     private static void status(Edges e) {
-        e.edge(PART, "STATUS: how many calls were refused: 0 of TEXTS with a FAULT (of SCORES too), 1 of what is set, 2 of PORTRAITS, 3 of POINTS, 4 "
-            + "of BIRTHDAYS.", () -> {
+        e.edge(PART, "STATUS: how many calls were refused: 0 of TEXTS with a FAULT (of SCORES too), 1 of what is set, "
+            + "2 of PORTRAITS, 3 of POINTS, 4 of BIRTHDAYS.", () -> {
                 PenSwings x = new PenSwings();
                 Check.row("none at first", Seen.status(x), 0, 0, 0, 0, 0);
                 Check.swings(x, "x");
@@ -433,7 +453,8 @@ final class ScoreEdges {
     }
 
     private static void score(Edges e) {
-        e.edge(4, "The tape's first n bytes (it is empty then) are the SCORE, in place of another one: 0, or the FAULT (it stays as it was).", () -> {
+        e.edge(4, "The tape's first n bytes (it is empty then) are the SCORE, in place of another one: 0, or the "
+            + "FAULT (it stays as it was).", () -> {
             PenSwings x = Check.scored(SWINGS, "lift 1");
             Check.feed(x, "lift 23 lift 4");
             Check.is("cut in a number", x.score(6), 0);
@@ -444,6 +465,14 @@ final class ScoreEdges {
             Seen.kept("a fault", x, () -> Check.is("at the end", Check.score(x, "lift 2 lift 3 lift"), 1));
             Check.row("the tape is empty", new int[] {x.count(5), x.count(6), x.fault()}, 0, 1, 18);
             Seen.kept("another fault", x, () -> Check.is("too deep", Check.score(x, many("repeat1(", 6)), 2));
+            for (String wrong : new String[] {"lift 9 x", "lift 0", "lift 9 repeat 1 lift 9", "repeat 1 (lift 9",
+                "lift 9)", "when (lift 9)",
+                "when right lift 9", "penny 4 1 lift 9", "lift 9 size 0 91", "when loud 4 () lift 9", "when right () "
+                    + "else lift 9",
+                "lift 9 when not not not not not right ()", "lift 9;"}) {
+                Check.is("a fault: " + wrong, Check.score(x, wrong) > 0 ? 1 : 0, 1);
+                Check.row("it stays behind " + wrong, new int[] {x.performed(0), x.performed(2)}, 1, 0);
+            }
             Check.feed(x, "lift 2");
             Check.is("no bytes of a tape", x.score(0), 0);
             Check.row("no acts", new int[] {x.count(5), x.performed(0)}, 0, 0);
@@ -451,7 +480,8 @@ final class ScoreEdges {
             PenSwings y = Seen.rich();
             int acts = y.performed(0);
             y.score(0);
-            Check.row("nothing else goes", new int[] {acts, y.performed(0), y.count(0), y.count(2), y.count(3), y.count(4)}, 3, 0, 4, 3, 2, 3);
+            Check.row("nothing else goes", new int[] {acts, y.performed(0), y.count(0), y.count(2), y.count(3),
+                y.count(4)}, 3, 0, 4, 3, 2, 3);
             Check.is("nor the evening", y.drawing(0) >= 0 ? 1 : 0, 1);
             Check.is("nor the image", y.restore() ? 1 : 0, 1);
         });
@@ -480,11 +510,12 @@ final class ScoreEdges {
     }
 
     private static void performed(Edges e) {
-        e.edge(5, "The SCORE PERFORMED: ACTS that began (what 0), CELLS that are marked (1), the TICK at the end (2), the CELL in which THE PEN is then "
-            + "(3).", () -> {
+        e.edge(5, "The SCORE PERFORMED: ACTS that began (what 0), CELLS that are marked (1), the TICK at the end (2), "
+            + "the CELL in which THE PEN is then (3).", () -> {
                 performed("", 0, 0, 0, START);
                 performed("draw 3 lift 1", 2, 3, 4, START);
-                PenSwings x = Check.scored("pendulum kick 2 90 0 0;pendulum kick 2 90 0 0;pendulum kick 2 90 0 0;pendulum kick 2 90 0 0;"
+                PenSwings x = Check.scored("pendulum kick 2 90 0 0;pendulum kick 2 90 0 0;"
+                    + "pendulum kick 2 90 0 0;pendulum kick 2 90 0 0;"
                     + "cart 0 20 20;cart 0 20 20;cart 0 20 20;cart 0 20 20;", "draw 2");
                 Check.row("in the last cell of all", answers(x), 1, 2, 2, 728);
             });

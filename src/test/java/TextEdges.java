@@ -27,13 +27,15 @@ final class TextEdges {
 
     private static void whatItIs(Edges e) {
         String section = "What it is";
-        e.plain(section, "Four pendulums and a pen: two that move it along and two across, of kinds, by whole ticks, with sizes "
+        e.plain(section, "Four pendulums and a pen: two that move it along and two across, of kinds, by whole ticks, "
+            + "with sizes "
             + "that die away; pennies that slow them; carts in the street that shake it; cells of paper that are drawn; when "
             + "all would come round, and how far off it is by then; portraits that are kept, and which are alike but for size, "
             + "turning or start, how many kinds there are; which pennies drew told points, chords by fewest pennies moved, "
             + "when a cart went by; birthdays made pennies so that no two of a parish are alike; two portraits laid together; "
             + "an evening of drawings with tea; a score told in words, performed. ==== 1.");
-        e.edge(section, "An object is used for at most 512 calls after it has been made; what later calls answer is free.", () -> {
+        e.edge(section, "An object is used for at most 512 calls after it has been made; what later calls answer is "
+            + "free.", () -> {
             PenSwings x = new PenSwings();
             for (int call = 1; call < 512; call++) {
                 Check.is("call " + call, x.set(0, 0, 10), PenSwings.NONE);
@@ -90,7 +92,8 @@ final class TextEdges {
             taken("pendulum even 40 0 0 0;pennies 9 0 0 0;", 0, 6, 49);
         });
         e.edge(TERMS, "(Untold ones are even, of LENGTH 2, SIZE 0, START 0, LOSS 0.)", () -> {
-            PenSwings x = Check.told("pendulum kick 8 5 7 6;pendulum bowl 9 5 7 6;pendulum kick 8 5 7 6;pendulum bowl 9 5 7 6;");
+            PenSwings x = Check.told("pendulum kick 8 5 7 6;pendulum bowl 9 5 7 6;pendulum kick 8 5 7 6;"
+                + "pendulum bowl 9 5 7 6;");
             Check.is("told anew, one", Check.swings(x, "pendulum kick 8 5 7 6;"), 0);
             for (int p = 1; p < 4; p++) {
                 Check.row("untold " + p, pendulum(x, p), 0, 2, 0, 0, 0, 0, 2);
@@ -205,8 +208,8 @@ final class TextEdges {
             Check.is("in any order, pendulums", y.count(0), 2);
             Check.is("in any order, carts", y.count(1), 2);
         });
-        e.edge(TERMS, "LINE: ('pendulum' ('even' | 'bowl' | 'kick') LENGTH SIZE START LOSS | 'cart' TICK SIGNED SIGNED | 'pennies' "
-            + "NUMBER NUMBER NUMBER NUMBER) ';', all in capitals but SIGNED being NUMBERS;", () -> {
+        e.edge(TERMS, "LINE: ('pendulum' ('even' | 'bowl' | 'kick') LENGTH SIZE START LOSS | 'cart' TICK SIGNED "
+            + "SIGNED | 'pennies' NUMBER NUMBER NUMBER NUMBER) ';', all in capitals but SIGNED being NUMBERS;", () -> {
                 tooFewOrMany();
                 Check.badSwings("pendulum even -8 5 0 0;", 1, 14);
                 Check.badSwings("pendulum even 8 -5 0 0;", 1, 16);
@@ -289,6 +292,12 @@ final class TextEdges {
         e.edge(TERMS, "1 a TOKEN that can't stand there, or is none", () -> {
             Check.badSwings("x", 1, 0);
             Check.badSwings("-", 1, 0);
+            Check.badSwings("bendulum even 8 5 0 0;", 1, 0);
+            Check.badSwings("part 1 1 1;", 1, 0);
+            Check.badSwings("tennies 0 0 0 0;", 1, 0);
+            Check.badSwings("pendulum oven 8 5 0 0;", 1, 9);
+            Check.badSwings("pendulum howl 8 5 0 0;", 1, 9);
+            Check.badSwings("pendulum sick 8 5 0 0;", 1, 9);
             Check.badSwings("pendulum pendulum", 1, 9);
             Check.badSwings("pendulum kicks 8 5 0 0;", 1, 9);
             Check.badSwings("pendulum even 8 5 0 0 -", 1, 22);
@@ -408,10 +417,11 @@ final class TextEdges {
             Check.is("the first 34 bytes", x.swings(34), 0);
             Check.is("one pendulum", x.count(0), 1);
             Check.is("one cart", x.count(1), 1);
+            Check.row("the pen of that one cart", new int[] {x.pen(9, 0) - x.swing(0, 9), x.pen(9, 1)}, 2, -3);
             Check.is("an empty tape behind swings", x.count(5), 0);
             Check.feed(x, PENDULUM);
             Check.is("no bytes of a tape", x.swings(0), 0);
-            Check.is("no pendulum", x.count(0), 0);
+            Check.row("no pendulum, no cart", new int[] {x.count(0), x.count(1), x.pen(9, 0), x.pen(9, 1)}, 0, 0, 0, 0);
             Check.is("an empty tape behind none of it", x.count(5), 0);
             Check.is("no bytes of no tape", x.swings(0), 0);
             faultLeavesAll();
@@ -483,8 +493,8 @@ final class TextEdges {
     }
 
     private static void count(Edges e) {
-        e.edge(8, "0 PENDULUMS that were told, 1 CARTS, 2 PORTRAITS, 3 POINTS, 4 BIRTHDAYS, 5 bytes of the tape, 6 to 10 STATUS 0 "
-            + "to 4.", () -> {
+        e.edge(8, "0 PENDULUMS that were told, 1 CARTS, 2 PORTRAITS, 3 POINTS, 4 BIRTHDAYS, 5 bytes of the tape, 6 to "
+            + "10 STATUS 0 to 4.", () -> {
                 PenSwings x = Check.told(FOUR_PENDULUMS + FOUR_CARTS);
                 Check.is("a fault", Check.swings(x, "x"), 1);
                 for (int i = 0; i < 11; i++) {
