@@ -46,7 +46,7 @@ public final class ReadmeTest {
         for (Method m : PenSwings.class.getDeclaredMethods()) {
             if (Modifier.isPublic(m.getModifiers())) {
                 boolean named = readme.contains("`" + m.getName() + "`");
-                boolean shown = readme.contains("x." + m.getName() + "(") || m.getName().equals("unpoint");
+                boolean shown = readme.contains("x." + m.getName() + "(");
                 Check.is("README.md names " + m.getName(), named ? 1 : 0, 1);
                 Check.is("README.md shows " + m.getName(), shown ? 1 : 0, 1);
             }
